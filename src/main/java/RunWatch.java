@@ -8,6 +8,7 @@ public final class RunWatch {
     private static final int ALL_SIGNS = 31;
     private static final int MIDDLE_SIGN = 2;
     private static final int MOST_RULES = 3;
+    private static final int ALL_RULES = 7;
     private static final int MOST_OF = 4;
     private static final int MOST_PAST = 6;
     private static final int PASTS = 64;
@@ -725,7 +726,7 @@ public final class RunWatch {
             int behind = 0;
             for (int i = 0; i < rows.size && i < MOST_ROWS; i++) {
                 int passed = plan.pass(behind, rows.signs[i]);
-                met[i] = passed & (1 << MOST_RULES) - 1;
+                met[i] = passed & ALL_RULES;
                 behind = passed >> MOST_RULES;
                 past[i] = behind;
             }
@@ -803,7 +804,7 @@ public final class RunWatch {
             for (int past = 0; past < pasts; past++) {
                 for (int sign = 0; sign < SIGNS; sign++) {
                     int passed = plan.pass(past, sign);
-                    boolean alarm = (passed & (1 << MOST_RULES) - 1) != 0;
+                    boolean alarm = (passed & ALL_RULES) != 0;
                     leads[past * SIGNS + sign] = alarm ? ALARM : passed >> MOST_RULES;
                 }
             }
@@ -828,7 +829,7 @@ public final class RunWatch {
             return parts;
         }
 
-        /** Five places of 65 (a part, or an alarm) are just below the largest int. */
+        /** Where the five signs lead, as five places of 65 (a part, or an alarm): an int can hold that. */
         private int keyOf(int past) {
             int key = 0;
             for (int sign = 0; sign < SIGNS; sign++) {

@@ -112,6 +112,12 @@ public final class PromiseTest {
         told("rul 1 1 1;", -10);
         told("Rule 1 1 1;", -10);
         told("rulerule", -10);
+        told("rulez 1 1 1;", -10);
+        told("arule 1 1 1;", -10);
+        told("rule{ 1 1 1;", -14);
+        told("rule` 1 1 1;", -14);
+        told("rule 1/1 1;", -16);
+        told("rule 1:1 1;", -16);
         told("  rulesums", -12);
         told("\trule 1 1 1;", -10);
         told("\u0000", -10);
@@ -476,6 +482,13 @@ public final class PromiseTest {
         stepsAre(x, new int[][] {{1, 0, 0, 0, 0}, {ALARM, 0, 0, 0, 0}});
         tell(x, "rule 2 2 2;rule 2 2 1;");
         stepsAre(x, new int[][] {{1, 2, 0, 0, 0}, {ALARM, 2, 0, 0, 0}, {1, ALARM, 0, 0, 0}});
+        // only M, then only N is another
+        tell(x, "rule 1 3 24;");
+        stepsAre(x, new int[][] {{0, 0, 0, ALARM, ALARM}});
+        tell(x, "rule 2 3 24;");
+        stepsAre(x, new int[][] {{0, 0, 0, 1, 1}, {2, 2, 2, ALARM, ALARM}, {0, 0, 0, ALARM, ALARM}});
+        tell(x, "rule 2 2 24;");
+        stepsAre(x, new int[][] {{0, 0, 0, 1, 1}, {0, 0, 0, ALARM, ALARM}});
         // 3 of 4: what can't come to an alarm any more by its oldest sign is one with what has none
         tell(x, "rule 3 4 16;");
         due(14, "count(2)", x.count(2), 6);
@@ -549,6 +562,10 @@ public final class PromiseTest {
         due(17, "mean(), at once", x.mean(), 1);
         tell(x, "rule 1 1 1;");
         due(17, "mean(), 10", x.mean(), 10);
+        tell(x, "rule 1 1 1;chance 2 1 3 1 3;");
+        due(17, "mean(), only the chances are others, all of them", x.mean(), 5);
+        tell(x, "rule 1 1 1;chance 5 1 3 1 0;");
+        due(17, "mean(), only some chances are others", x.mean(), 2);
         tell(x, "rule 2 2 4;chance 0 0 5 5 0;");
         due(17, "mean(), 6", x.mean(), 6);
         x.comes(3, 2);
