@@ -95,7 +95,7 @@ public final class RunWatch {
         }
         Rows rows = sheet.rows;
         int place = rows.placeOf(time);
-        if (place < rows.size && rows.times[place] == time) {
+        if (isRow(place) && rows.times[place] == time) {
             return STATE;
         }
         if (rows.size >= MOST_ROWS) {
@@ -200,7 +200,7 @@ public final class RunWatch {
             return BAD;
         }
         int now = stateNow();
-        int away = machine.away[now];
+        int away = machine.awayFrom(now);
         if (away == NONE || k >= away) {
             return NONE;
         }
@@ -218,7 +218,7 @@ public final class RunWatch {
     public int mean() {
         int now = stateNow();
         means.fit(machine, sheet.plan);
-        return means.known ? means.numbers[now] : NONE;
+        return means.known && isPast(now) ? means.numbers[now] : NONE;
     }
 
     public int same(int what) {
@@ -274,6 +274,11 @@ public final class RunWatch {
 
     private static boolean isSign(int sign) {
         return sign >= 0 && sign < SIGNS;
+    }
+
+    /** Whether it can be the number of a past, or of a state: these are no more. */
+    private static boolean isPast(int number) {
+        return number >= 0 && number < PASTS;
     }
 
     private boolean isRow(int i) {
@@ -690,8 +695,8 @@ public final class RunWatch {
         }
 
         void note(Sheet sheet) {
-            sheets[next].take(sheet);
-            next = next + 1 < MOST_UNDONE ? next + 1 : 0;
+            sheets[Math.floorMod(next, MOST_UNDONE)].take(sheet);
+            next++;
             size = Math.min(size + 1, MOST_UNDONE);
         }
 
@@ -699,9 +704,9 @@ public final class RunWatch {
             if (size <= 0) {
                 return;
             }
-            next = next > 0 ? next - 1 : MOST_UNDONE - 1;
+            next--;
             size--;
-            sheet.take(sheets[next]);
+            sheet.take(sheets[Math.floorMod(next, MOST_UNDONE)]);
         }
 
         void forget() {
@@ -763,7 +768,7 @@ public final class RunWatch {
         private final int[] pastOfState = new int[PASTS];
         int states;
         final int[] steps = new int[PASTS * SIGNS];
-        final int[] away = new int[PASTS];
+        private final int[] away = new int[PASTS];
 
         Machine() {
             build();
@@ -777,11 +782,14 @@ public final class RunWatch {
         }
 
         int stateBehind(int past) {
-            if (past < 0 || past >= PASTS) {
-                return 0;
-            }
+            int ofPart = isPast(past) ? part[past] : 0;
             // Only a past that no row of signs leads to has no state.
-            return Math.max(0, stateOfPart[part[past]]);
+            return isPast(ofPart) ? Math.max(0, stateOfPart[ofPart]) : 0;
+        }
+
+        /** How many signs an alarm is away; NONE if none can come. */
+        int awayFrom(int state) {
+            return isPast(state) ? away[state] : NONE;
         }
 
         private void build() {
@@ -819,7 +827,7 @@ public final class RunWatch {
                 while (found < parts && keys[found] != key) {
                     found++;
                 }
-                if (found == parts) {
+                if (found == parts && parts < PASTS) {
                     keys[parts] = key;
                     parts++;
                 }
@@ -834,7 +842,7 @@ public final class RunWatch {
             int key = 0;
             for (int sign = 0; sign < SIGNS; sign++) {
                 int to = leads[past * SIGNS + sign];
-                key = key * (PASTS + 1) + (to == ALARM ? PASTS : part[to]);
+                key = key * (PASTS + 1) + (isPast(to) ? part[to] : PASTS);
             }
             return key;
         }
@@ -844,16 +852,20 @@ public final class RunWatch {
             states = 0;
             stateOf(0);
             for (int state = 0; state < states && state < PASTS; state++) {
-                for (int sign = 0; sign < SIGNS; sign++) {
-                    int to = leads[pastOfState[state] * SIGNS + sign];
-                    steps[state * SIGNS + sign] = to == ALARM ? ALARM : stateOf(to);
+                int past = pastOfState[state];
+                for (int sign = 0; sign < SIGNS && isPast(past); sign++) {
+                    int to = leads[past * SIGNS + sign];
+                    steps[state * SIGNS + sign] = isPast(to) ? stateOf(to) : ALARM;
                 }
             }
         }
 
         /** The number of a past's state, the next one if it is come to for the first time. */
         private int stateOf(int past) {
-            int ofPart = part[past];
+            int ofPart = isPast(past) ? part[past] : 0;
+            if (!isPast(ofPart)) {
+                return 0;
+            }
             if (stateOfPart[ofPart] < 0 && states < PASTS) {
                 stateOfPart[ofPart] = states;
                 pastOfState[states] = past;
@@ -862,13 +874,13 @@ public final class RunWatch {
             return stateOfPart[ofPart];
         }
 
-        /** How many signs each state is away from an alarm; NONE if none can come. */
+        /** Which states are one sign away from an alarm, then which are two, and so on. */
         private void measure() {
             Arrays.fill(away, NONE);
             boolean changed = true;
             for (int far = 1; far <= PASTS && changed; far++) {
                 changed = false;
-                for (int state = 0; state < states; state++) {
+                for (int state = 0; state < states && state < PASTS; state++) {
                     if (away[state] == NONE && signTo(state, far - 1) != NONE) {
                         away[state] = far;
                         changed = true;
@@ -879,9 +891,9 @@ public final class RunWatch {
 
         /** The first sign behind which an alarm is so far away, 0 being the alarm itself. */
         private int signTo(int state, int far) {
-            for (int sign = 0; sign < SIGNS; sign++) {
+            for (int sign = 0; sign < SIGNS && isPast(state); sign++) {
                 int to = steps[state * SIGNS + sign];
-                int left = to == ALARM ? 0 : away[to];
+                int left = to == ALARM ? 0 : awayFrom(to);
                 if (left == far) {
                     return sign;
                 }
@@ -894,11 +906,8 @@ public final class RunWatch {
             int state = from;
             int sign = NONE;
             for (int i = 0; i <= k && i < PASTS; i++) {
-                if (state < 0 || state >= PASTS) {
-                    return NONE;
-                }
-                sign = signTo(state, away[state] - 1);
-                if (sign == NONE) {
+                sign = signTo(state, awayFrom(state) - 1);
+                if (!isPast(state) || !isSign(sign)) {
                     return NONE;
                 }
                 state = steps[state * SIGNS + sign];
@@ -916,7 +925,9 @@ public final class RunWatch {
 
         void reckon(Machine machine, int now, int[] chances, int n) {
             Arrays.fill(weights, 0);
-            weights[now] = 1;
+            if (isPast(now)) {
+                weights[now] = 1;
+            }
             upper = 0;
             lower = 1;
             for (int i = 0; i < n && i < MOST_ODDS; i++) {
@@ -941,10 +952,10 @@ public final class RunWatch {
                 for (int sign = 0; sign < SIGNS; sign++) {
                     int weight = weights[state] * chances[sign];
                     int to = machine.steps[state * SIGNS + sign];
-                    if (to == ALARM) {
-                        alarmed += weight;
-                    } else {
+                    if (isPast(to)) {
                         next[to] += weight;
+                    } else {
+                        alarmed += weight;
                     }
                 }
             }
@@ -999,7 +1010,7 @@ public final class RunWatch {
                 line[size] = TEN;
                 for (int sign = 0; sign < SIGNS; sign++) {
                     int to = machine.steps[state * SIGNS + sign];
-                    if (to != ALARM) {
+                    if (isPast(to)) {
                         line[to] = Math.floorMod(line[to] - plan.chances[sign], PRIME);
                     }
                 }

@@ -367,10 +367,14 @@ public final class CallEdgeTest {
     }
 
     private static void alarm() {
-        RunWatch x = Trials.watching("rule 1 1 24;", 4, 0, 3, 0, 4);
-        Trials.due("alarm(0)", x.alarm(0), 0);
-        Trials.due("alarm(1)", x.alarm(1), 2);
-        Trials.due("alarm(2), the last", x.alarm(2), 4);
+        RunWatch x = Trials.watching("rule 1 1 24;");
+        int[] signs = {4, 0, 3, 0, 4};
+        for (int i = 0; i < signs.length; i++) {
+            x.comes(7 + 20 * i, signs[i]);
+        }
+        Trials.due("alarm(0)", x.alarm(0), 7);
+        Trials.due("alarm(1)", x.alarm(1), 47);
+        Trials.due("alarm(2), the last", x.alarm(2), 87);
     }
 
     private static void howManyAlarms() {
@@ -399,8 +403,12 @@ public final class CallEdgeTest {
     }
 
     private static void signal() {
-        RunWatch x = Trials.watching("sums 0 1;", 4, 2, 0, 3, 3);
-        Trials.signalsAre(x, 0, 2, 4);
+        RunWatch x = Trials.watching("sums 0 1;");
+        int[] signs = {4, 2, 0, 3, 3};
+        for (int i = 0; i < signs.length; i++) {
+            x.comes(7 + 20 * i, signs[i]);
+        }
+        Trials.signalsAre(x, 7, 47, 87);
         RunWatch y = Trials.watching("sums 0 1;");
         for (int i = 0; i < 40; i++) {
             y.comes(99 - i, i % 2 * 4);

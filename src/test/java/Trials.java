@@ -13,7 +13,12 @@ final class Trials {
     static void holds(String sentence, Runnable trial) {
         int before = wrong;
         trials++;
-        trial.run();
+        try {
+            trial.run();
+        } catch (RuntimeException thrown) {
+            wrong++;
+            System.out.println("a call threw " + thrown + " at " + thrown.getStackTrace()[0]);
+        }
         if (wrong != before) {
             broken++;
             System.out.println("does not hold: \"" + sentence + "\"");
