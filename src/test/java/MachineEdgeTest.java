@@ -100,6 +100,9 @@ public final class MachineEdgeTest {
         // The lower sign is the earlier state, whichever rule is the earlier.
         Trials.stepsAre(Trials.watching("rule 2 2 8;rule 2 2 2;"), row(0, 1, 0, 2, 0), row(0, ALARM, 0, 2, 0),
             row(0, 1, 0, ALARM, 0));
+        // Both that are behind 1 come ahead of the one behind 2.
+        Trials.stepsAre(Trials.watching("rule 3 4 1;"), row(1, 0, 0, 0, 0), row(2, 3, 3, 3, 3), row(ALARM, 4, 4, 4, 4),
+            row(5, 0, 0, 0, 0), row(ALARM, 0, 0, 0, 0), row(ALARM, 3, 3, 3, 3));
         // What a sign leads back to keeps its number.
         Trials.stepsAre(Trials.watching("rule 2 3 1;"), row(1, 0, 0, 0, 0), row(ALARM, 2, 2, 2, 2), row(ALARM, 0, 0, 0, 0));
     }

@@ -1,3 +1,4 @@
+import java.util.ArrayDeque;
 import java.util.function.Consumer;
 
 /** The second part of the document's terms (rows, alarms, sums, done and undone), sentence by sentence. */
@@ -46,6 +47,7 @@ public final class RowsEdgeTest {
         Trials.holds("UNDONE: the latest tells(), comes(), goes(), becomes() that was not refused", RowsEdgeTest::notRefused);
         Trials.holds("RULES, CHANCES, SLACK, LIMIT, ROWS are as ahead of it", RowsEdgeTest::asAhead);
         Trials.holds("(6 are known, older ones are lost)", RowsEdgeTest::sixKnown);
+        Trials.holds("(6 are known, older ones are lost), done and undone in turn", RowsEdgeTest::inTurn);
     }
 
     private static void times() {
@@ -393,5 +395,40 @@ public final class RowsEdgeTest {
         Trials.due("undo()", x.undo(), 0);
         Trials.rowsAre(x, 0, 1, 2, 3);
         Trials.due("undo(), no more", x.undo(), Trials.STATE);
+    }
+
+    /** So many done, some undone, some more done, all undone: rows are as a list of all that was shows. */
+    private static void inTurn() {
+        for (int number = 0; number < 15 * 7 * 9; number++) {
+            RunWatch x = new RunWatch();
+            ArrayDeque<Integer> known = new ArrayDeque<>();
+            int rows = come(x, known, 0, number % 15);
+            for (int left = number / 15 % 7; left > 0; left--) {
+                rows = undoOne(x, known, rows);
+            }
+            rows = come(x, known, rows, number / 105);
+            for (int left = 0; left < 8; left++) {
+                rows = undoOne(x, known, rows);
+            }
+        }
+    }
+
+    /** More rows come: how many there are then. How many there were ahead of each is noted. */
+    private static int come(RunWatch x, ArrayDeque<Integer> known, int rows, int more) {
+        for (int i = 0; i < more; i++) {
+            known.push(rows + i);
+            if (known.size() > 6) {
+                known.removeLast();
+            }
+            x.comes(rows + i, i % 5);
+        }
+        return rows + more;
+    }
+
+    private static int undoOne(RunWatch x, ArrayDeque<Integer> known, int rows) {
+        int due = known.isEmpty() ? rows : known.pop();
+        Trials.due("undo()", x.undo(), due == rows ? Trials.STATE : known.size());
+        Trials.due("count(1)", x.count(1), due);
+        return due;
     }
 }
