@@ -893,7 +893,7 @@ public final class RunWatch {
         private int signTo(int state, int far) {
             for (int sign = 0; sign < SIGNS && isPast(state); sign++) {
                 int to = steps[state * SIGNS + sign];
-                int left = to == ALARM ? 0 : awayFrom(to);
+                int left = isPast(to) ? away[to] : 0;
                 if (left == far) {
                     return sign;
                 }
