@@ -1067,9 +1067,11 @@ public final class RunWatch {
             int[] from = lines[other];
             int[] line = lines[pivot];
             long times = PRIME - from[pivot];
-            for (int i = 0; i < used; i++) {
+            for (int i = 0; i < used && i <= size; i++) {
                 int column = columns[i];
-                from[column] = (int) ((from[column] + times * line[column]) % PRIME);
+                if (column >= 0 && column <= size) {
+                    from[column] = (int) ((from[column] + times * line[column]) % PRIME);
+                }
             }
             from[pivot] = 0;
         }

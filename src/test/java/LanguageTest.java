@@ -5,8 +5,11 @@ import java.lang.reflect.Modifier;
 import java.io.IOException;
 import java.nio.file.Files;
 import java.nio.file.Path;
+import java.util.HashSet;
 import java.util.List;
+import java.util.Map;
 import java.util.Set;
+import java.util.TreeMap;
 import java.util.TreeSet;
 import java.util.regex.Pattern;
 
@@ -17,6 +20,11 @@ public final class LanguageTest {
     private static final int MOST_CLASSES = 12;
     private static final int MOST_FIELDS = 20;
     private static final int MOST_PARAMETERS = 7;
+    private static final int DEEPEST = 8;
+    /** Of the library: what RunWatch uses of all that LANGUAGE.md lists. */
+    private static final Set<String> LIBRARY = Set.of("java.lang.Object.<init>", "java.lang.String.length",
+        "java.lang.String.charAt", "java.lang.Integer.bitCount", "java.lang.Math.min", "java.lang.Math.max",
+        "java.lang.Math.floorMod", "java.lang.System.arraycopy", "java.util.Arrays.fill");
     private static final List<String> FORBIDDEN = List.of("\\bthrow\\b", "\\btry\\b", "\\bcatch\\b", "\\bsynchronized\\b",
         "\\bassert\\b", "->", "::", "\\bpackage\\b", "\\bprotected\\b", "\\w+Exact\\b", "\\bObject\\b", "\\bvar\\b",
         "static *\\{", "\\bhashCode\\b", "\\btoString\\b", "System\\.(?!arraycopy\\b)\\w+", "Thread", "Random");
@@ -33,6 +41,7 @@ public final class LanguageTest {
         methodLengths();
         face();
         classesInside();
+        calls();
         System.out.println(wrong == 0 ? "the source keeps to the language" : wrong + " rules are broken");
         if (wrong != 0) {
             System.exit(1);
@@ -117,6 +126,47 @@ public final class LanguageTest {
         for (Method method : each.getDeclaredMethods()) {
             expect(method.getParameterCount() <= MOST_PARAMETERS, "too many parameters: " + method);
         }
+    }
+
+    private static void calls() throws IOException {
+        Map<String, Set<String>> all = new TreeMap<>();
+        Set<Class<?>> classes = new HashSet<>(List.of(RunWatch.class.getDeclaredClasses()));
+        classes.add(RunWatch.class);
+        for (Class<?> each : classes) {
+            ClassCalls read = new ClassCalls(each);
+            all.putAll(read.calls);
+            for (String owner : read.fieldOwners) {
+                expect(isOwn(owner), "a field of the library: " + owner);
+            }
+        }
+        for (Set<String> called : all.values()) {
+            for (String method : called) {
+                boolean allowed = isOwn(method) || LIBRARY.contains(method.substring(0, Math.max(0, method.indexOf('('))));
+                expect(allowed, "not of the library: " + method);
+            }
+        }
+        expect(all.size() > FACE.size(), "the calls of all classes are looked at");
+        for (String method : all.keySet()) {
+            int depth = depth(all, method, 1);
+            expect(depth <= DEEPEST, method + " goes " + depth + " calls deep");
+        }
+    }
+
+    private static boolean isOwn(String name) {
+        return name.matches("RunWatch[.$].*|RunWatch");
+    }
+
+    /** A method that comes back to itself goes too deep as well. */
+    private static int depth(Map<String, Set<String>> all, String method, int now) {
+        int deepest = now;
+        if (now <= DEEPEST) {
+            for (String called : all.get(method)) {
+                if (all.containsKey(called)) {
+                    deepest = Math.max(deepest, depth(all, called, now + 1));
+                }
+            }
+        }
+        return deepest;
     }
 
     private static void expect(boolean holds, String what) {
